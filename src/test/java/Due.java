@@ -3,6 +3,13 @@ final class Due {
     private int wrong = 0;
     private int right = 0;
 
+    /** A test with a name of its own: the promise or the term, and the words of the document that it is about. */
+    void test(String name, Runnable body) {
+        int before = wrong;
+        body.run();
+        System.out.println((wrong == before ? "ok     " : "WRONG  ") + name);
+    }
+
     void is(String call, long got, long want) {
         if (got == want) {
             right++;
