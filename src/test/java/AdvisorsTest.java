@@ -1,4 +1,4 @@
-/** Promises 2 (advise), 3 (when), 4 (reorder), 5 (remove), 6 (freeze) and 18 (chain). */
+/** Ordinary uses of promises 2 (advise), 3 (when), 4 (reorder), 5 (remove), 6 (freeze) and 18 (chain). */
 public final class AdvisorsTest {
     private static final int NONE = AdviceLinks.NONE;
     private static final int LOWEST = Integer.MIN_VALUE;
@@ -7,16 +7,10 @@ public final class AdvisorsTest {
 
     public static void main(String[] args) {
         adviseAnswersNumbers();
-        adviseRefusesKindsAndMethods();
-        adviseLooksAtNumbersOfEachKind();
-        adviseRefusesTheSeventh();
-        adviseMakesWithoutRange();
         whenGivesRanges();
-        whenRefuses();
         reorderMoves();
         removeTakesAway();
         freezeKeepsAdvisors();
-        chainRefuses();
         DUE.end();
     }
 
@@ -30,77 +24,6 @@ public final class AdvisorsTest {
         DUE.chain("2", x, 0, 1, 0, 3);
         DUE.chain("2", x, 1, 0);
         DUE.chain("2", x, 5, 0, 3, 2);
-    }
-
-    private static void adviseRefusesKindsAndMethods() {
-        AdviceLinks x = new AdviceLinks();
-        int[] wrongKinds = {-1, 8, LOWEST, HIGHEST};
-        for (int kind : wrongKinds) {
-            DUE.is("2: kind " + kind, x.advise(kind, 0, 1, 1, 1), NONE);
-        }
-        int[] wrongSets = {0, 64, 65, -1, LOWEST, HIGHEST};
-        for (int methods : wrongSets) {
-            DUE.is("2: methods " + methods, x.advise(1, 0, methods, 1, 1), NONE);
-        }
-        for (int method = 0; method < 6; method++) {
-            DUE.chain("2: nothing was made", x, method);
-        }
-        for (int method = 0; method < 6; method++) {
-            DUE.is("2: one method", x.advise(1, 0, 1 << method, 1, 1), method);
-            DUE.chain("2: one method", x, method, method);
-        }
-    }
-
-    private static void adviseLooksAtNumbersOfEachKind() {
-        int[] numbers = {LOWEST, -1, 0, 1, 2, 15, 16, HIGHEST};
-        for (int kind = 0; kind < 8; kind++) {
-            for (int a : numbers) {
-                for (int b : numbers) {
-                    boolean aIsException = a >= 1 && a <= 15;
-                    boolean bIsException = b >= 1 && b <= 15;
-                    boolean good = true;
-                    if (kind == 0 || kind == 4 || kind == 6) {
-                        good = bIsException;
-                    } else if (kind == 5) {
-                        good = aIsException && (bIsException || b == 0);
-                    } else if (kind == 7) {
-                        good = aIsException;
-                    }
-                    String call = "2: advise(" + kind + ", 0, 1, " + a + ", " + b + ")";
-                    DUE.is(call, new AdviceLinks().advise(kind, 0, 1, a, b), good ? 0 : NONE);
-                }
-            }
-        }
-    }
-
-    private static void adviseRefusesTheSeventh() {
-        AdviceLinks x = new AdviceLinks();
-        for (int i = 0; i < 6; i++) {
-            DUE.is("2: six", x.advise(1, -i, 1 << i, 0, 0), i);
-        }
-        DUE.is("2: the seventh", x.advise(1, 0, 1, 0, 0), NONE);
-        DUE.yes("2: remove", x.remove(3));
-        DUE.is("2: a removed number is not used again", x.advise(1, 9, 1, 0, 0), 6);
-        DUE.is("2: six again", x.advise(1, 0, 1, 0, 0), NONE);
-        DUE.chain("2: seventh", x, 0, 0, 6);
-        DUE.chain("2: seventh", x, 3);
-        AdviceLinks y = new AdviceLinks();
-        for (int i = 0; i < 200; i++) {
-            DUE.is("2: many", y.advise(1, 0, 1, 0, 0), i);
-            DUE.yes("2: many", y.remove(i));
-        }
-        DUE.is("2: above a hundred", y.advise(1, 0, 1, 1, 0), 200);
-        DUE.invokes("2: above a hundred", y, 0, 4, AdviceLinks.RETURNED, 5, 200, 4, 100, 5);
-    }
-
-    private static void adviseMakesWithoutRange() {
-        AdviceLinks x = new AdviceLinks();
-        x.advise(1, 0, 1, 1, 0);
-        x.when(0, 5, 6);
-        x.remove(0);
-        x.advise(1, 0, 1, 1, 0);
-        DUE.invokes("2: no range", x, 0, 9, AdviceLinks.RETURNED, 10, 1, 9, 100, 10);
-        DUE.is("2: asked", x.asked(), 0);
     }
 
     private static void whenGivesRanges() {
@@ -120,26 +43,6 @@ public final class AdvisorsTest {
         DUE.yes("3: all", x.when(0, LOWEST, HIGHEST));
         DUE.invokes("3: lowest", x, 0, LOWEST, AdviceLinks.RETURNED, LOWEST + 100, 0, LOWEST, 100, LOWEST + 100);
         DUE.invokes("3: highest", x, 0, HIGHEST, AdviceLinks.RETURNED, HIGHEST + 100, 0, HIGHEST, 100, HIGHEST + 100);
-    }
-
-    private static void whenRefuses() {
-        AdviceLinks x = new AdviceLinks();
-        DUE.no("3: none is there", x.when(0, 1, 2));
-        DUE.no("3: NONE", x.when(NONE, 1, 2));
-        x.advise(1, 0, 1, 100, 0);
-        DUE.no("3: low above high", x.when(0, 2, 1));
-        DUE.no("3: low far above high", x.when(0, HIGHEST, LOWEST));
-        DUE.invokes("3: refused, so no range", x, 0, 9, AdviceLinks.RETURNED, 109, 0, 9, 100, 109);
-        DUE.is("3: asked", x.asked(), 0);
-        DUE.yes("3: range", x.when(0, 1, 2));
-        DUE.no("3: low above high", x.when(0, 10, 9));
-        DUE.no("3: not made yet", x.when(1, 9, 9));
-        x.invoke(0, 9);
-        DUE.is("3: the range stays", x.result(), 9);
-        x.invoke(0, 2);
-        DUE.is("3: the range stays", x.result(), 102);
-        x.remove(0);
-        DUE.no("3: removed", x.when(0, 1, 2));
     }
 
     private static void reorderMoves() {
@@ -211,20 +114,5 @@ public final class AdvisorsTest {
         DUE.is("6: the refused one used no number", x.advise(1, 0, 1, 0, 0), 2);
         DUE.yes("6: no more", x.when(0, 50, 60) && x.reorder(0, 7) && x.remove(1));
         DUE.chain("6: no more", x, 0, 2, 0);
-    }
-
-    private static void chainRefuses() {
-        AdviceLinks x = new AdviceLinks();
-        DUE.is("18: empty", x.chain(0, 0), NONE);
-        x.advise(1, 0, 63, 0, 0);
-        x.when(0, 5, 5);
-        for (int method = 0; method < 6; method++) {
-            DUE.chain("18: also with a range", x, method, 0);
-        }
-        int[] wrong = {-1, 6, 31, 32, 64, LOWEST, HIGHEST};
-        for (int number : wrong) {
-            DUE.is("18: chain(" + number + ", 0)", x.chain(number, 0), NONE);
-            DUE.is("18: chain(0, " + number + ")", x.chain(0, number), NONE);
-        }
     }
 }

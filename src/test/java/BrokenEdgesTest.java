@@ -27,6 +27,7 @@ public final class BrokenEdgesTest {
         DUE.test("BROKEN: without a result or an exception", BrokenEdgesTest::withoutResult);
         DUE.test("BROKEN: nothing more is taken", BrokenEdgesTest::nothingMoreIsTaken);
         DUE.test("BROKEN: nothing more is asked", BrokenEdgesTest::nothingMoreIsAsked);
+        DUE.test("BROKEN: nothing more is asked behind the advisor whose event it was", BrokenEdgesTest::notAskedBehindIt);
         DUE.test("BROKEN: the calls after it", BrokenEdgesTest::callsAfterIt);
         DUE.end();
     }
@@ -38,9 +39,14 @@ public final class BrokenEdgesTest {
      * last works are those on x + 62, x + 61 and x + 60 of the methods 0, 1 and 2. The result is 32.
      */
     private static AdviceLinks ladder() {
+        return ladder(1);
+    }
+
+    /** The ladder, the first of whose chain advises these methods. */
+    private static AdviceLinks ladder(int methodsOfTheFirst) {
         AdviceLinks x = new AdviceLinks();
         for (int i = 0; i < 5; i++) {
-            x.advise(3, -i, 1, 2 << i, 0);
+            x.advise(3, -i, i < 4 ? 1 : methodsOfTheFirst, 2 << i, 0);
         }
         for (int target = 0; target < 2; target++) {
             x.plan(target, 0, 0, 1);
@@ -210,9 +216,13 @@ public final class BrokenEdgesTest {
         int[][] around = {{4, 32, 3}, {4, 0, 3}, {5, 1, 3}, {5, 1, 0}, {6, -24, 3}, {6, 9, 3}, {7, 1, 3}, {3, 9, 9}};
         for (int[] advisor : around) {
             AdviceLinks x = withOuter(advisor[0], advisor[1], advisor[2]);
-            DUE.is("around it kind " + advisor[0], x.invoke(0, forEvents(127)), BROKEN);
-            DUE.is("around it kind " + advisor[0], x.result(), 0);
-            DUE.is("around it kind " + advisor[0], x.events(), 100);
+            String run = "around it kind " + advisor[0];
+            DUE.is(run, x.invoke(0, forEvents(127)), BROKEN);
+            DUE.is(run + ": result()", x.result(), 0);
+            DUE.is(run + ": events()", x.events(), 100);
+            DUE.is(run + ": asked()", x.asked(), 0);
+            // The event of TWICE comes before all others, so that one work less has room.
+            DUE.is(run + ": taken()", x.taken(), advisor[0] == 3 ? 49 : 50);
         }
         for (int kind = 4; kind < 8; kind++) {
             AdviceLinks x = withInner(kind, 1, 3, 101);
@@ -272,6 +282,23 @@ public final class BrokenEdgesTest {
         asks(x, 127, 25 + 49);
         x.invoke(3, 0);
         DUE.is("an empty chain after it", x.asked(), 0);
+    }
+
+    private static void notAskedBehindIt() {
+        int[][] early = {{0, -1, 1}, {1, 0, 0}, {2, -1, 1}, {3, 0, 0}};
+        for (int[] advisor : early) {
+            for (int events = 100; events <= 101; events++) {
+                AdviceLinks x = ladder(1 + 4);
+                x.when(4, forEvents(events), forEvents(events));
+                x.advise(advisor[0], OUTERMOST, 4, advisor[1], advisor[2]);
+                x.when(TESTED, lastOfMethod2(events), lastOfMethod2(events));
+                boolean notes = events == 100;
+                String run = "kind " + advisor[0] + (notes ? " is the 100th" : " would be the 101st");
+                climbTo100(run, x, events, BROKEN, 0, notes ? TESTED : 101, notes ? 35 : 37);
+                // Of 18 invocations of method 2 both are asked in each, of 19 the second is not in the last.
+                DUE.is(run + ": asked()", x.asked(), notes ? 1 + 18 + 18 : 1 + 19 + 18);
+            }
+        }
     }
 
     private static void callsAfterIt() {

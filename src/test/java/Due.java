@@ -1,7 +1,27 @@
 /** Counts the answers that are not as due, prints each, and ends the test. */
 final class Due {
+    // Far more than any test needs, so that a call that fails to end fails its test.
+    private static final long LONGEST_MILLIS = 300_000;
+
     private int wrong = 0;
     private int right = 0;
+
+    Due() {
+        Thread watch = new Thread(Due::haltWhenTooLong);
+        watch.setDaemon(true);
+        watch.start();
+    }
+
+    private static void haltWhenTooLong() {
+        try {
+            Thread.sleep(LONGEST_MILLIS);
+        } catch (InterruptedException e) {
+            return;
+        }
+        System.out.println("the test does not end");
+        System.out.flush();
+        Runtime.getRuntime().halt(1);
+    }
 
     /** A test with a name of its own: the promise or the term, and the words of the document that it is about. */
     void test(String name, Runnable body) {

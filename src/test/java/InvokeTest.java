@@ -1,12 +1,10 @@
 /**
- * Promises 11 (invoke), 12 (result), 13 (events), 14 (who), 15 (what) and 16 (asked), with the
- * eight kinds and BROKEN.
+ * Ordinary uses of promises 11 (invoke), 12 (result), 13 (events), 14 (who), 15 (what) and
+ * 16 (asked), with the eight kinds.
  */
 public final class InvokeTest {
-    private static final int NONE = AdviceLinks.NONE;
     private static final int RETURNED = AdviceLinks.RETURNED;
     private static final int THROWN = AdviceLinks.THROWN;
-    private static final int BROKEN = AdviceLinks.BROKEN;
     private static final int LOWEST = Integer.MIN_VALUE;
     private static final int HIGHEST = Integer.MAX_VALUE;
     private static final Due DUE = new Due();
@@ -20,16 +18,8 @@ public final class InvokeTest {
         throwing();
         lastly();
         recover();
-        exceptionsAreExceptions();
         orderOfTheChain();
         asked();
-        refusedInvokeChangesNothing();
-        noSuchEvent();
-        hundredEvents();
-        brokenIsNeitherCaughtNorFinished();
-        brokenByLateEvents();
-        brokenInsideOthers();
-        brokenKeepsTurns();
         DUE.end();
     }
 
@@ -108,25 +98,6 @@ public final class InvokeTest {
         DUE.invokes("RECOVER nothing thrown", with(7, 6, 5), 0, 3, RETURNED, 6, 100, 3);
     }
 
-    private static void exceptionsAreExceptions() {
-        int[][] above = {
-            {}, {1}, {2, 1}, {3, 1}, {4, 2, 1}, {5, 2, 1}, {6, 3, 1}, {7, 3, 1}, {8, 4, 2, 1}, {9, 4, 2, 1},
-            {10, 5, 2, 1}, {11, 5, 2, 1}, {12, 6, 3, 1}, {13, 6, 3, 1}, {14, 7, 3, 1}, {15, 7, 3, 1}};
-        for (int e = 1; e <= 15; e++) {
-            for (int t = 1; t <= 15; t++) {
-                boolean is = false;
-                for (int exception : above[e]) {
-                    is = is || exception == t;
-                }
-                AdviceLinks x = with(7, t, 50);
-                x.fail(0, 0, 1, e);
-                DUE.is("exception " + e + " is " + t, x.invoke(0, 1), is ? RETURNED : THROWN);
-                DUE.is("exception " + e + " is " + t, x.result(), is ? 50 : e);
-                DUE.is("exception " + e + " is " + t, x.events(), is ? 2 : 1);
-            }
-        }
-    }
-
     private static void orderOfTheChain() {
         AdviceLinks x = new AdviceLinks();
         x.fail(0, 0, 5, 9);
@@ -164,125 +135,5 @@ public final class InvokeTest {
         x.when(3, 0, 9);
         DUE.invokes("16: none behind one that keeps back", x, 0, 8, RETURNED, 77, 3, 8);
         DUE.is("16: none behind one that keeps back", x.asked(), 1);
-    }
-
-    private static void refusedInvokeChangesNothing() {
-        AdviceLinks x = new AdviceLinks();
-        x.advise(1, 0, 1, 1, 1);
-        x.when(0, 0, 9);
-        DUE.invokes("11", x, 0, 4, RETURNED, 6, 0, 4, 100, 5);
-        int[] wrong = {-1, 6, 32, LOWEST, HIGHEST};
-        for (int method : wrong) {
-            DUE.is("11: invoke(" + method + ", 1)", x.invoke(method, 1), NONE);
-            DUE.is("12: result() stays", x.result(), 6);
-            DUE.is("13: events() stays", x.events(), 2);
-            DUE.is("14: who(1) stays", x.who(1), 100);
-            DUE.is("15: what(1) stays", x.what(1), 5);
-            DUE.is("16: asked() stays", x.asked(), 1);
-            DUE.is("17: taken() stays", x.taken(), 1);
-        }
-        AdviceLinks y = new AdviceLinks();
-        DUE.is("11: refused first", y.invoke(6, 3), NONE);
-        DUE.is("12: there was none", y.result(), 0);
-        DUE.is("13: there was none", y.events(), 0);
-        DUE.is("17: there was none", y.taken(), 0);
-    }
-
-    private static void noSuchEvent() {
-        AdviceLinks x = new AdviceLinks();
-        x.advise(3, 0, 1, 1, 1);
-        DUE.invokes("three events", x, 0, 7, RETURNED, 16, 0, 7, 100, 7, 100, 8);
-        DUE.invokes("one event after three", x, 1, 7, RETURNED, 7, 101, 7);
-        int[] wrong = {-1, 1, 2, 99, 100, 101, LOWEST, HIGHEST};
-        for (int i : wrong) {
-            DUE.is("14: who(" + i + ")", x.who(i), NONE);
-            DUE.is("15: what(" + i + ")", x.what(i), 0);
-        }
-    }
-
-    /**
-     * Five advisors (0 .. 4) of the kind TWICE, so that method 0 works on argument .. argument + 31,
-     * each once and in rising order: 63 events. It calls method 1, and that calls method 2.
-     */
-    private static AdviceLinks ladder() {
-        AdviceLinks x = new AdviceLinks();
-        for (int i = 0; i < 5; i++) {
-            x.advise(3, -i, 1, 1 << i, 0);
-        }
-        for (int target = 0; target < 2; target++) {
-            x.calls(target, 0, 1);
-            x.calls(target, 1, 2);
-        }
-        return x;
-    }
-
-    private static void outcome(String run, AdviceLinks x, int argument, int outcome, int result, int events) {
-        DUE.is(run + ": invoke(0, " + argument + ")", x.invoke(0, argument), outcome);
-        DUE.is(run + ": result()", x.result(), result);
-        DUE.is(run + ": events()", x.events(), events);
-    }
-
-    private static void hundredEvents() {
-        AdviceLinks x = ladder();
-        outcome("BROKEN: not yet", x, -31, RETURNED, -496, 63);
-        outcome("BROKEN: just a hundred", x, -12, RETURNED, 75, 100);
-        DUE.is("BROKEN: the hundredth", x.who(99), 102);
-        DUE.is("BROKEN: the hundredth", x.what(99), 17);
-        DUE.is("BROKEN: none behind it", x.who(100), NONE);
-        DUE.is("BROKEN: none behind it", x.what(100), 0);
-        DUE.is("BROKEN: taken()", x.taken(), 38);
-        outcome("BROKEN: two too many", x, -11, BROKEN, 0, 100);
-        DUE.is("BROKEN: the hundredth", x.who(99), 100);
-        DUE.is("BROKEN: the hundredth", x.what(99), 20);
-        DUE.is("BROKEN: none behind it", x.who(100), NONE);
-        DUE.is("BROKEN: none behind it", x.what(100), 0);
-        DUE.is("BROKEN: the last began", x.taken(), 39);
-        outcome("BROKEN: far too many", x, HIGHEST - 31, BROKEN, 0, 100);
-        DUE.invokes("BROKEN: and then another", x, 3, 4, RETURNED, 4, 103, 4);
-        DUE.is("BROKEN: taken()", x.taken(), 1);
-    }
-
-    private static void brokenIsNeitherCaughtNorFinished() {
-        int[][] outermost = {{4, 0, 3}, {5, 1, 3}, {6, 50, 3}, {7, 1, 3}};
-        for (int[] advisor : outermost) {
-            AdviceLinks x = ladder();
-            DUE.is("BROKEN: advise", x.advise(advisor[0], -9, 1, advisor[1], advisor[2]), 5);
-            outcome("BROKEN: around it kind " + advisor[0], x, 50, BROKEN, 0, 100);
-        }
-    }
-
-    private static void brokenByLateEvents() {
-        int[][] outermost = {{4, 75, 3}, {5, 1, 3}, {6, -12, 3}, {7, 1, 3}};
-        for (int[] advisor : outermost) {
-            AdviceLinks x = ladder();
-            x.advise(advisor[0], -9, 1, advisor[1], advisor[2]);
-            if (advisor[0] == 5 || advisor[0] == 7) {
-                outcome("BROKEN: nothing to note for kind " + advisor[0], x, -12, RETURNED, 75, 100);
-                x.fail(0, 2, 17, 9);
-            }
-            outcome("BROKEN: the last event is of kind " + advisor[0], x, -12, BROKEN, 0, 100);
-        }
-    }
-
-    private static void brokenInsideOthers() {
-        int[][] innermost = {{0, 19, 3}, {1, 1, 1}, {2, 50, 3}, {3, 1, 3}};
-        for (int[] advisor : innermost) {
-            AdviceLinks x = ladder();
-            x.advise(advisor[0], 0, 2, advisor[1], advisor[2]);
-            x.when(5, 19, 19);
-            outcome("BROKEN: the last event is of kind " + advisor[0], x, -11, BROKEN, 0, 100);
-            DUE.is("BROKEN: the hundredth", x.who(99), 100);
-            DUE.is("BROKEN: asked before", x.asked(), 20);
-            DUE.is("BROKEN: taken before", x.taken(), 39);
-        }
-    }
-
-    private static void brokenKeepsTurns() {
-        AdviceLinks x = ladder();
-        x.plan(1, 5, 1, 1000);
-        x.source(2);
-        outcome("BROKEN: in turn", x, -11, BROKEN, 0, 100);
-        DUE.is("BROKEN: an odd number", x.taken(), 39);
-        DUE.invokes("BROKEN: the turn goes on", x, 5, 1, RETURNED, 1001, 105, 1);
     }
 }

@@ -5,13 +5,13 @@
 enum State {
     /** As the constructor leaves it. */
     NEW,
-    /** The advisors 0, 2, 3 and 4 (1 was removed), two of them with ranges; source 2, target 1 is next. */
+    /** The advisors 0, 2, 3 and 4 (1 was removed), all but 3 with ranges; source 2, target 1 is next. */
     SOME,
     /** SOME, and the advisors 5 and 6: six are there. */
     SIX,
     /** SOME, frozen. */
     FROZEN,
-    /** The advisors 0 .. 5, so that the latest invoke() was BROKEN; source 1. */
+    /** The advisors 0 .. 5 with ranges, and the latest invoke() was BROKEN; source 1. */
     BROKEN;
 
     /** How many calls make() makes at most. */
@@ -45,6 +45,7 @@ enum State {
         x.advise(2, 8, 62, -2, 7);
         x.advise(6, 4, 47, 8, 3);
         x.advise(7, 12, 57, 4, 50);
+        x.when(0, -5, 8);
         x.when(2, -4, 6);
         x.when(4, -1, 7);
         x.remove(1);
@@ -55,6 +56,7 @@ enum State {
     private static void breakOff(AdviceLinks x) {
         for (int i = 0; i < 6; i++) {
             x.advise(3, 3 * i, 63, i, 0);
+            x.when(i, -4, 30 + i);
         }
         x.plan(1, 5, 3, 4);
         x.calls(1, 0, 5);

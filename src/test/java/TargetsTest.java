@@ -1,60 +1,19 @@
-/** Promises 1 (a new object), 7 (plan), 8 (fail), 9 (calls), 10 (source) and 17 (taken). */
+/** Ordinary uses of promises 7 (plan), 8 (fail), 9 (calls), 10 (source) and 17 (taken). */
 public final class TargetsTest {
     private static final int NONE = AdviceLinks.NONE;
     private static final int RETURNED = AdviceLinks.RETURNED;
     private static final int THROWN = AdviceLinks.THROWN;
     private static final int LOWEST = Integer.MIN_VALUE;
     private static final int HIGHEST = Integer.MAX_VALUE;
-    private static final int[] NO_TARGETS = {-1, 2, 3, LOWEST, HIGHEST};
-    private static final int[] NO_METHODS = {-1, 6, 7, LOWEST, HIGHEST};
     private static final Due DUE = new Due();
 
     public static void main(String[] args) {
-        newObjectAnswers();
-        newObjectWorks();
         planSets();
         failSets();
-        failsNoMore();
         callsInvokes();
-        callsOnlyAboveZero();
         callsThreeDeep();
-        sourceChooses();
-        sourceTakesTurns();
         sourceCountsInnerInvocations();
-        wrongInputsChangeNothing();
         DUE.end();
-    }
-
-    private static void newObjectAnswers() {
-        AdviceLinks x = new AdviceLinks();
-        DUE.is("1: result()", x.result(), 0);
-        DUE.is("1: events()", x.events(), 0);
-        DUE.is("1: who(0)", x.who(0), NONE);
-        DUE.is("1: what(0)", x.what(0), 0);
-        DUE.is("1: asked()", x.asked(), 0);
-        DUE.is("1: taken()", x.taken(), 0);
-        for (int method = 0; method < 6; method++) {
-            DUE.chain("1", x, method);
-        }
-        DUE.is("1: not frozen", x.advise(1, 0, 1, 0, 0), 0);
-    }
-
-    private static void newObjectWorks() {
-        int[] arguments = {LOWEST, -1, 0, 1, 2, 77, HIGHEST};
-        for (int source = 0; source < 2; source++) {
-            AdviceLinks x = new AdviceLinks();
-            x.source(source);
-            for (int method = 0; method < 6; method++) {
-                for (int argument : arguments) {
-                    DUE.invokes("1", x, method, argument, RETURNED, argument, 100 + method, argument);
-                    DUE.is("1: taken()", x.taken(), 1);
-                }
-            }
-        }
-        AdviceLinks y = new AdviceLinks();
-        y.plan(1, 0, 0, 7);
-        DUE.invokes("1: source 0", y, 0, 5, RETURNED, 5, 100, 5);
-        DUE.invokes("1: source 0", y, 0, 5, RETURNED, 5, 100, 5);
     }
 
     private static void planSets() {
@@ -94,16 +53,6 @@ public final class TargetsTest {
         DUE.invokes("8: the new one", x, 2, LOWEST, THROWN, 7, 102, LOWEST);
     }
 
-    private static void failsNoMore() {
-        AdviceLinks x = new AdviceLinks();
-        x.fail(0, 0, 5, 3);
-        DUE.yes("8: no more, with another argument", x.fail(0, 0, 99, 0));
-        DUE.invokes("8: no more", x, 0, 5, RETURNED, 5, 100, 5);
-        DUE.invokes("8: no more", x, 0, 99, RETURNED, 99, 100, 99);
-        DUE.yes("8: at zero", x.fail(0, 0, 0, 2));
-        DUE.invokes("8: at zero", x, 0, 0, THROWN, 2, 100, 0);
-    }
-
     private static void callsInvokes() {
         AdviceLinks x = new AdviceLinks();
         DUE.yes("9: calls", x.calls(0, 0, 5));
@@ -127,17 +76,6 @@ public final class TargetsTest {
         DUE.invokes("9: target 0", x, 2, 1, RETURNED, 1, 102, 1);
     }
 
-    private static void callsOnlyAboveZero() {
-        AdviceLinks x = new AdviceLinks();
-        x.calls(0, 0, 1);
-        x.plan(0, 0, 2, 7);
-        DUE.invokes("9: at 1", x, 0, 1, RETURNED, 7, 100, 1, 101, 0);
-        DUE.invokes("9: at 0", x, 0, 0, RETURNED, 7, 100, 0);
-        DUE.is("9: taken()", x.taken(), 1);
-        DUE.invokes("9: at -1", x, 0, -1, RETURNED, 5, 100, -1);
-        DUE.invokes("9: lowest", x, 0, LOWEST, RETURNED, 7, 100, LOWEST);
-    }
-
     private static void callsThreeDeep() {
         AdviceLinks x = new AdviceLinks();
         x.calls(0, 4, 4);
@@ -158,39 +96,6 @@ public final class TargetsTest {
         DUE.is("17: taken though never worked on", x.taken(), 1);
     }
 
-    private static void sourceChooses() {
-        AdviceLinks x = new AdviceLinks();
-        x.plan(1, 0, 1, 1000);
-        DUE.yes("10: source 1", x.source(1));
-        for (int i = 0; i < 3; i++) {
-            DUE.invokes("10: target 1", x, 0, i, RETURNED, 1000 + i, 100, i);
-        }
-        DUE.yes("10: source 0", x.source(0));
-        for (int i = 0; i < 3; i++) {
-            DUE.invokes("10: target 0", x, 0, i, RETURNED, i, 100, i);
-        }
-    }
-
-    private static void sourceTakesTurns() {
-        AdviceLinks x = new AdviceLinks();
-        x.plan(1, 0, 1, 1000);
-        x.plan(1, 3, 1, 1000);
-        DUE.yes("10: source 2", x.source(2));
-        DUE.invokes("10: turn 0", x, 0, 0, RETURNED, 0, 100, 0);
-        DUE.invokes("10: turn 1", x, 3, 0, RETURNED, 1000, 103, 0);
-        DUE.invokes("10: turn 0", x, 0, 0, RETURNED, 0, 100, 0);
-        DUE.is("10: refused takes no turn", x.invoke(6, 0), NONE);
-        DUE.no("10: refused", x.source(3) || x.source(-1) || x.source(LOWEST) || x.source(HIGHEST));
-        DUE.invokes("10: turn 1", x, 0, 0, RETURNED, 1000, 100, 0);
-        DUE.invokes("10: turn 0", x, 0, 0, RETURNED, 0, 100, 0);
-        DUE.yes("10: anew", x.source(2));
-        DUE.invokes("10: turn 0", x, 0, 0, RETURNED, 0, 100, 0);
-        DUE.yes("10: away", x.source(1));
-        DUE.invokes("10: target 1", x, 0, 0, RETURNED, 1000, 100, 0);
-        DUE.yes("10: and back", x.source(2));
-        DUE.invokes("10: turn 0", x, 0, 0, RETURNED, 0, 100, 0);
-    }
-
     private static void sourceCountsInnerInvocations() {
         AdviceLinks x = new AdviceLinks();
         x.calls(0, 0, 0);
@@ -206,35 +111,5 @@ public final class TargetsTest {
         DUE.invokes("10: kept back", x, 0, 0, RETURNED, 8, 0, 0);
         x.remove(0);
         DUE.invokes("10: but its target was taken", x, 0, 0, RETURNED, 100, 100, 0);
-    }
-
-    private static void wrongInputsChangeNothing() {
-        AdviceLinks x = new AdviceLinks();
-        for (int target : NO_TARGETS) {
-            DUE.no("7: target " + target, x.plan(target, 0, 5, 5));
-            DUE.no("8: target " + target, x.fail(target, 0, 1, 5));
-            DUE.no("8: target " + target, x.fail(target, 0, 1, 0));
-            DUE.no("9: target " + target, x.calls(target, 0, 1));
-            DUE.no("9: target " + target, x.calls(target, 0, NONE));
-        }
-        for (int method : NO_METHODS) {
-            DUE.no("7: method " + method, x.plan(0, method, 5, 5) || x.plan(1, method, 5, 5));
-            DUE.no("8: method " + method, x.fail(0, method, 1, 5) || x.fail(1, method, 1, 0));
-            DUE.no("9: method " + method, x.calls(0, method, 1) || x.calls(1, method, NONE));
-        }
-        int[] noExceptions = {-1, 16, 17, LOWEST, HIGHEST};
-        for (int exception : noExceptions) {
-            DUE.no("8: exception " + exception, x.fail(0, 0, 1, exception));
-        }
-        int[] noNext = {-2, 6, LOWEST, HIGHEST};
-        for (int next : noNext) {
-            DUE.no("9: next " + next, x.calls(0, 0, next));
-        }
-        for (int source = 0; source < 2; source++) {
-            x.source(source);
-            for (int method = 0; method < 6; method++) {
-                DUE.invokes("refused", x, method, 1, RETURNED, 1, 100 + method, 1);
-            }
-        }
     }
 }

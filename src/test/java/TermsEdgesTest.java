@@ -45,6 +45,7 @@ public final class TermsEdgesTest {
         DUE.test("GOING ALONG: from the next place with x", TermsEdgesTest::onToTheNextPlace);
         DUE.test("Where nothing is said of an exception it is thrown on", TermsEdgesTest::thrownOn);
         DUE.test("A call that is refused changes nothing", TermsEdgesTest::refusedCallsInARow);
+        DUE.test("A call that is refused changes nothing: the states are as said", TermsEdgesTest::statesAreAsSaid);
         DUE.end();
     }
 
@@ -591,6 +592,20 @@ public final class TermsEdgesTest {
         DUE.is("taken()", x.taken(), 3);
         DUE.is("result()", x.result(), 15);
         DUE.chain("the chain", x, 5, 5, 0, 3, 2, 4, 6);
+    }
+
+    private static void statesAreAsSaid() {
+        DUE.chain("NEW", State.NEW.make(), 5);
+        AdviceLinks some = State.SOME.make();
+        DUE.chain("SOME", some, 5, 0, 3, 2, 4);
+        DUE.is("SOME: an odd number of turns", some.taken(), 3);
+        DUE.is("SOME: asked", some.asked(), 6);
+        DUE.is("SOME: is not frozen", some.advise(1, 0, 1, 0, 0), 5);
+        DUE.chain("SIX", State.SIX.make(), 5, 5, 0, 3, 2, 4, 6);
+        DUE.is("FROZEN", State.FROZEN.make().advise(1, 0, 1, 0, 0), NONE);
+        DUE.chain("BROKEN", State.BROKEN.make(), 5, 0, 1, 2, 3, 4, 5);
+        DUE.is("BROKEN", State.BROKEN.make().invoke(0, 7), AdviceLinks.BROKEN);
+        DUE.is("BROKEN", State.BROKEN.make().events(), 100);
     }
 
     /** Makes calls that are refused in every state; answers whether one was not. */
