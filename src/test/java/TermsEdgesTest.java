@@ -62,14 +62,15 @@ public final class TermsEdgesTest {
             DUE.invokes("each", x, method, 50, THROWN, 1 + method, method, 50, 100 + method, 50);
             DUE.chain("each", x, method, method);
         }
-        for (int wrong = -1; wrong <= 6; wrong = wrong + 7) {
-            DUE.no("plan", x.plan(0, wrong, 1, 1));
-            DUE.no("fail", x.fail(0, wrong, 1, 1));
-            DUE.no("calls", x.calls(0, wrong, 1));
-            DUE.is("invoke", x.invoke(wrong, 1), NONE);
-            DUE.is("chain", x.chain(wrong, 0), NONE);
+        int[] wrong = {-1, 6};
+        for (int method : wrong) {
+            REFUSAL.isFalse("plan(0, " + method + ", 1, 1)", y -> y.plan(0, method, 1, 1), State.values());
+            REFUSAL.isFalse("fail(0, " + method + ", 1, 1)", y -> y.fail(0, method, 1, 1), State.values());
+            REFUSAL.isFalse("calls(0, " + method + ", 1)", y -> y.calls(0, method, 1), State.values());
+            REFUSAL.isNone("invoke(" + method + ", 1)", y -> y.invoke(method, 1), State.values());
+            REFUSAL.isNone("chain(" + method + ", 0)", y -> y.chain(method, 0), State.values());
         }
-        DUE.no("calls, next 6", x.calls(0, 0, 6));
+        REFUSAL.isFalse("calls(0, 0, 6)", y -> y.calls(0, 0, 6), State.values());
     }
 
     private static void exceptions() {
