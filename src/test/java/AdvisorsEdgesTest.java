@@ -408,6 +408,15 @@ public final class AdvisorsEdgesTest {
         DUE.invokes("invoke", x, 0, 1, RETURNED, 3003, 0, 1, 100, 1, 0, 0, 101, 0);
         DUE.invokes("invoke", x, 0, 2, AdviceLinks.THROWN, 4, 0, 2, 100, 2, 0, 1, 101, 1);
         DUE.chain("chain", x, 1, 0);
+        x.plan(1, 5, 1, 1000);
+        DUE.yes("source", x.source(2));
+        DUE.invokes("target 0 in its turn", x, 5, 1, RETURNED, 1, 105, 1);
+        x.freeze(true);
+        DUE.invokes("target 1 in its turn", x, 5, 1, RETURNED, 1001, 105, 1);
+        x.freeze(false);
+        DUE.is("freeze leaves the latest invoke()", x.result(), 1001);
+        DUE.is("freeze leaves the latest invoke()", x.events(), 1);
+        DUE.invokes("target 0 again", x, 5, 1, RETURNED, 1, 105, 1);
     }
 
     private static void chainPlaces() {
